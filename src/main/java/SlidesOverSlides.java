@@ -19,6 +19,7 @@ public final class SlidesOverSlides {
     private static final int MOST_SEEDS = 40;
     private static final int CELL_COUNT = 16;
     private static final int ALL_DARK = 65535;
+    private static final int WITHOUT_SIGN = 0x7FFFFFFF;
 
     private final Lantern now = new Lantern();
     private final Lantern mind = new Lantern();
@@ -284,7 +285,7 @@ public final class SlidesOverSlides {
     }
 
     private static int drawBelow(int z, int n) {
-        return n > 0 ? (z & Integer.MAX_VALUE) / 65536 % n : 0;
+        return n > 0 ? (z & WITHOUT_SIGN) / 65536 % n : 0;
     }
 
     /** Pictures as bits: cell 4 y + x is bit 4 y + x, dark is 1. */
@@ -803,7 +804,7 @@ public final class SlidesOverSlides {
             for (int set = 0; set < 1 << slides; set++) steps[set] = Integer.bitCount(set);
             for (int done = 1; done <= all; done++) {
                 arrive(done, stopCount, 1 << slides);
-                walk(done, slides);
+                if (done < all) walk(done, slides);
             }
             return leastSteps(all, 1 << slides);
         }

@@ -356,6 +356,7 @@ public final class PromiseTest {
     private static void near() {
         SlidesOverSlides x = new SlidesOverSlides();
         due("without slides", x.near(0x00FF), 8);
+        due("all cells", x.near(0xFFFF), 16);
         due("lantern", tell(x, plain(0x000F) + plain(0x0013)), 2);
         due("blank", x.near(0), 0);
         due("just that", x.near(0x000F), 0);
@@ -537,14 +538,19 @@ public final class PromiseTest {
         due("40 shows", x.seeds(40, 5), 9 * 16 + 9 * 15 + 9 * 14 + 9 * 13 + 4 * 12);
         due("nothing is used", x.count(3), 0);
         due("nothing cracked", x.slide(0, 2), 0xFFFF);
-        due("lantern", tell(x, plain(0x0001) + "h8;"), 2);
-        // z 1: 1103527590, by 65536 is 16838; then -1761946674 or, without its sign's bit, 385536974: 5882.
-        due("both draws 0", x.seeds(1, 1), 16);
-        // z 0: 12345, by 65536 is 0; then -740551042 or 1406932606: 21468; both 0.
-        due("both draws 0", x.seeds(1, 0), 16);
-        due("lantern", tell(x, plain(0x0001)), 1);
-        // Below three: 16838 is 2, 5882 is 2.
-        due("one alone", x.seeds(1, 1), 1);
+        due("lantern", tell(x, plain(0x0001) + plain(0x0006)), 2);
+        // Below three, z 1 draws 2 1, 0 1, 1 2; z -1 draws 2 2, 1 0, 1 2; the least int draws 0 0.
+        due("two", x.seeds(1, 1), 3);
+        due("two shows", x.seeds(2, 1), 3 + 16);
+        due("three shows", x.seeds(3, 1), 3 + 16 + 3);
+        due("one alone", x.seeds(1, -1), 2);
+        due("three shows", x.seeds(3, -1), 2 + 16 + 3);
+        due("the least seed", x.seeds(1, Integer.MIN_VALUE), 16);
+        due("heat", x.heat(1), 9);
+        // Behind its first use cell 1 of slide 2 is clear.
+        due("cracked in mind", x.seeds(3, -1), 2 + 16 + 2);
+        due("nothing cracked", x.slide(2, 2), 6);
+        due("nothing is used", x.count(3), 0);
     }
 
     private static void image() {
