@@ -1,10 +1,5 @@
 /** Each promise of the document with answers worked out by hand: ordinary calls, edges, refusals. */
-public final class PromiseTest {
-    private static int wrong = 0;
-    private static int asked = 0;
-    private static String part = "";
-
-    private static final String BLANK = "................";
+public final class PromiseTest extends Checks {
     /** One slide of each kind. */
     private static final String[] KINDS = {
         "s0010,####............;", // on it 0x000F
@@ -14,51 +9,6 @@ public final class PromiseTest {
         "s405,##..............;",  // on it 0x0002
         "s517,###.............;",  // on it 0x000A
     };
-
-    private static void due(String call, long got, long want) {
-        asked++;
-        if (got == want) return;
-        wrong++;
-        System.out.println(part + ": " + call + " answered " + got + ", due is " + want);
-    }
-
-    private static void feedAll(SlidesOverSlides x, String letters) {
-        for (int i = 0; i < letters.length(); i++) due("feed " + i, x.feed(letters.charAt(i)), i + 1);
-    }
-
-    private static int tell(SlidesOverSlides x, String letters) {
-        feedAll(x, letters);
-        return x.lantern();
-    }
-
-    private static SlidesOverSlides lanternOf(String... statements) {
-        SlidesOverSlides x = new SlidesOverSlides();
-        for (String statement : statements) due("lantern " + statement, tell(x, statement), 1);
-        return x;
-    }
-
-    /** A statement's sixteen cells for a picture told as bits. */
-    private static String cells(int picture) {
-        StringBuilder text = new StringBuilder();
-        for (int i = 0; i < 16; i++) text.append((picture >> i & 1) != 0 ? '#' : '.');
-        return text.toString();
-    }
-
-    private static String plain(int picture) {
-        return "s001," + cells(picture) + ";";
-    }
-
-    private static String priced(int price, int picture) {
-        return "s00" + price + "," + cells(picture) + ";";
-    }
-
-    private static String want(int picture) {
-        return "w" + cells(picture) + ";";
-    }
-
-    private static void refusalsAre(SlidesOverSlides x, int... counts) {
-        for (int i = 0; i < 6; i++) due("count(" + (11 + i) + ")", x.count(11 + i), counts[i]);
-    }
 
     private static void aNewObject() {
         SlidesOverSlides x = new SlidesOverSlides();
@@ -119,6 +69,10 @@ public final class PromiseTest {
         due("nothing came", x.count(0), 0);
         due("letters are gone", x.count(5), 0);
         refusalsAre(x, 0, 0, 0, 0, 0, 0);
+    }
+
+    private static void lanternRoom() {
+        SlidesOverSlides x = new SlidesOverSlides();
         due("3 slides", tell(x, plain(1) + plain(2) + plain(4)), 3);
         due("6 slides", tell(x, plain(8) + plain(16) + plain(32)), 3);
         due("9 slides", tell(x, plain(64) + plain(128) + plain(256)), -2044);
@@ -610,11 +564,11 @@ public final class PromiseTest {
     }
 
     private static void runOne(int promise) {
-        part = "promise " + promise;
+        about("promise " + promise);
         switch (promise) {
             case 1: aNewObject(); break;
             case 2: feed(); break;
-            case 3: lanternForm(); lanternRange(); break;
+            case 3: lanternForm(); lanternRange(); lanternRoom(); break;
             case 4: slide(); kinds(); break;
             case 5: wanted(); break;
             case 6: heat(); break;
@@ -642,7 +596,6 @@ public final class PromiseTest {
 
     public static void main(String[] args) {
         for (int promise = 1; promise <= 26; promise++) runOne(promise);
-        System.out.println(asked + " answers asked, " + wrong + " not as due");
-        if (wrong != 0) System.exit(1);
+        end();
     }
 }
