@@ -169,6 +169,45 @@ public final class ImageTest extends Checks {
         due("slide 2", x.slide(2, 2), -1);
     }
 
+    private static void whatIsGoneDoesNotHelp() {
+        about("THE IMAGE of less: what is gone does not help to show");
+        SlidesOverSlides x = lanternOf(priced(5, 0x0001), want(0x0001), want(ALL));
+        due("image", x.image(), 1);
+        due("lantern", tell(x, plain(ALL - 1) + want(0x0100)), 2);
+        isShown(x, 2, 6, 0, 3, 2);
+        due("restore", x.restore(), 1);
+        isShown(x, -9, -9, 15, 1, 1);
+        due("row", x.row(1), 1);
+        due("row", x.row(2), 2);
+        due("judge", x.judge(), 1);
+        due("nearest", x.nearest(0x0100, 1), 2);
+        due("lantern", tell(x, plain(0x0100)), 1);
+        due("row", x.row(2), 1);
+        due("a picture that is gone is not WANTED", x.judge(), 0);
+    }
+
+    private static void isShown(SlidesOverSlides x, int fewest, int cheapest, int near, int can, int round) {
+        due("fewest", x.fewest(ALL, 0), fewest);
+        due("cheapest", x.cheapest(ALL), cheapest);
+        due("can", x.can(-1), can);
+        due("round", x.round(), round);
+        due("near", x.near(ALL), near);
+    }
+
+    private static void usesAtFirst() {
+        about("USES (0 at first), whatever was tried in mind before");
+        SlidesOverSlides x = new SlidesOverSlides();
+        due("image", x.image(), 0);
+        due("lantern", tell(x, plain(3) + want(3)), 2);
+        due("seeds", x.seeds(5, 1), 10);
+        for (int i = 1; i <= 4; i++) due("row", x.row(1), i);
+        due("judge", x.judge(), -9);
+        due("restore", x.restore(), 0);
+        due("lantern", tell(x, plain(3)), 1);
+        due("uses", x.slide(0, 5), 0);
+        due("all uses", x.count(3), 0);
+    }
+
     private static void full() {
         about("THE IMAGE of 8 SLIDES and 6 WANTED PICTURES");
         SlidesOverSlides x = new SlidesOverSlides();
@@ -212,6 +251,8 @@ public final class ImageTest extends Checks {
         butIt();
         takenTwice();
         smallerAndLarger();
+        whatIsGoneDoesNotHelp();
+        usesAtFirst();
         full();
         notByMind();
         end();

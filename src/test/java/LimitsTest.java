@@ -340,6 +340,24 @@ public final class LimitsTest extends Checks {
         for (int y = 0; y < 3; y++) due("groups", x.gaps(ALL - (0x18 << 4 * y), 1), 2);
         due("the last row is not above the first", x.gaps(ALL - 0x1001, 1), 2);
         due("the left is not beside the right", x.gaps(ALL - 0x0009, 1), 2);
+        about("promise 10: a group that turns corners");
+        due("down and to the left", x.gaps(ALL - 0x0032, 1), 1);
+        due("down, to the right and up", x.gaps(ALL - 0x0755, 1), 1);
+        due("from the right end round to the left and up", x.gaps(ALL - 0xF999, 1), 1);
+        due("a snake through all rows", x.gaps(ALL - 0x1F8F, 1), 1);
+        due("the same, cut", x.gaps(ALL - 0x1F0F, 1), 2);
+    }
+
+    private static void allUnlike() {
+        about("NEAREST: all 16 CELLS unlike");
+        SlidesOverSlides x = lanternOf(want(0xA5A5));
+        due("which", x.nearest(0x5A5A, 0), 0);
+        due("how many", x.nearest(0x5A5A, 1), 16);
+        about("NEAREST: of several the least");
+        due("lantern", tell(x, want(0x0003) + want(0x000C) + want(0xA5A5)), 3);
+        due("which, two alike", x.nearest(0xA5A5, 0), 0);
+        due("which, two as near", x.nearest(0x000F, 0), 1);
+        due("how many", x.nearest(0x000F, 1), 2);
     }
 
     // ---- full ----
@@ -471,6 +489,34 @@ public final class LimitsTest extends Checks {
         due("uses", x.count(3), 0);
     }
 
+    private static void judgedBlank() {
+        about("JUDGED: shows no WANTED one, though it shows nothing");
+        SlidesOverSlides x = lanternOf(plain(0), plain(3), want(3));
+        due("row", x.row(2), 1);
+        due("row", x.row(1), 2);
+        due("judge", x.judge(), 1);
+        for (int i = 1; i <= 5; i++) due("lantern", tell(x, want(i << 8)), 1);
+        due("row", x.row(1), 1);
+        due("judge with 6 WANTED PICTURES", x.judge(), 0);
+    }
+
+    private static void whoIsOfTheSet() {
+        about("WHO: SLIDES of a set, none outside of it");
+        SlidesOverSlides x = lanternOf(plain(1), plain(6));
+        due("slide 1 is not in the set", x.who(1, 3, 0), 0);
+        due("ways", x.who(1, 3, 1), 0);
+        due("in the set", x.who(3, 3, 0), 2);
+        due("of 16 dark cells each in turn", lanternOf(plain(ALL)).who(1, 0x7FFF, 0), 1);
+    }
+
+    private static void canByOneSideOnly() {
+        about("CAN: each turned over or not, not both at once");
+        // Slide 1 would be needed straight (cell 0) and turned over (cell 3).
+        due("slide 0 turned over", lanternOf(plain(0x0010), plain(0x0001), want(0x0089)).can(-1), 0);
+        due("slide 0 straight", lanternOf(plain(0x0080), plain(0x0001), want(0x0089)).can(-1), 0);
+        due("one more of them", lanternOf(plain(0x0080), plain(0x0001), plain(0x0001), want(0x0089)).can(-1), 1);
+    }
+
     private static void usesOf99() {
         about("USES of each is 1 more (99 at most)");
         SlidesOverSlides x = lanternOf(plain(0), plain(0));
@@ -516,6 +562,21 @@ public final class LimitsTest extends Checks {
         due("judge", x.judge(), -9);
     }
 
+    private static void roundWithEight() {
+        about("ROUND with all 8 SLIDES");
+        SlidesOverSlides x = eight();
+        due("lantern", tell(x, want(128) + want(255) + want(1)), 3);
+        // 1 (1), 128 (2), all (7), in this order or with 1 and 128 changed.
+        due("round", x.round(), 10);
+        due("lantern", tell(x, want(0) + want(256)), 2);
+        due("round, nothing first, one can't be shown", x.round(), 10);
+        SlidesOverSlides y = lanternOf(plain(1), plain(2), plain(4), want(1), want(6));
+        // Beginning with slide 0: 1 + 3; beginning with slides 1 and 2: 2 + 3.
+        due("the first laid costs its SLIDES", y.round(), 4);
+        SlidesOverSlides z = lanternOf(plain(1), plain(2), plain(4), want(3), want(4));
+        due("the other way round", z.round(), 4);
+    }
+
     private static void moreThanFourInARound() {
         about("ROUND: -9 more than 4");
         SlidesOverSlides x = lanternOf(plain(1), plain(2), plain(4), want(1), want(8), want(2), want(4));
@@ -556,6 +617,7 @@ public final class LimitsTest extends Checks {
         pictureWithoutDark();
         fewestOfNone();
         noGaps();
+        allUnlike();
         eightyLetters();
         eightSlides();
         eightTurned();
@@ -564,9 +626,13 @@ public final class LimitsTest extends Checks {
         twelveSets();
         oneToFourProjected();
         judgedOneToFour();
+        judgedBlank();
+        whoIsOfTheSet();
+        canByOneSideOnly();
         usesOf99();
         crackAt99();
         usesIn99InMind();
+        roundWithEight();
         moreThanFourInARound();
         end();
     }
