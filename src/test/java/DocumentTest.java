@@ -418,6 +418,9 @@ public final class DocumentTest extends Checks {
         gapsAre(10, 2, "...#", ".##.", ".##.", "#...");
         gapsAre(10, 1, "....", "###.", "....", ".###");
         gapsAre(8, 4, ".#.#", ".#.#", "#.#.", "#.#.");
+        gapsAre(5, 1, ".#.#", "...#", "####", "####");
+        gapsAre(7, 1, "####", "#..#", "#.##", "....");
+        gapsAre(6, 1, "##.#", "#..#", "..##", ".###");
     }
 
     private static void mindOfNearest() {
@@ -610,10 +613,10 @@ public final class DocumentTest extends Checks {
             + " shows; in how many ways (SLIDE and CELL).");
         SlidesOverSlides x = lanternOf(plain(drawn("##..", "....", "....", "....")),
             plain(drawn(".##.", "....", "....", "....")), slideOf(1, 0, 0, drawn("....", "#...", "....", "....")));
-        int[] sets = { 7, 7, 7, 7, 7, 7, 7, 3, 3, 1, 1, 2, 4, 0 };
+        int[] sets = { 7, 7, 7, 7, 7, 7, 7, 3, 3, 1, 1, 1, 2, 4, 0 };
         String[] seen = { ".##. ...#", "##.. ...#", "###. ....", "#.#. ...#", "###. ...#", "#... ...#", "#### ...#",
-            ".##. ....", ".##. ...#", "#... ....", "#.#. ....", "..#. ....", ".... ....", ".... ...." };
-        int[] who = { 1, 2, 4, 0, 0, 0, 0, 1, 0, 1, 0, 2, 4, 0 };
+            ".##. ....", ".##. ...#", "#... ....", "#.#. ....", "###. ....", "..#. ....", ".... ....", ".... ...." };
+        int[] who = { 1, 2, 4, 0, 0, 0, 0, 1, 0, 1, 0, 0, 2, 4, 0 };
         for (int i = 0; i < sets.length; i++) {
             int picture = drawn(seen[i].substring(0, 4), seen[i].substring(5), "....", "....");
             due("who of " + sets[i] + " by " + seen[i], x.who(sets[i], picture, 0), who[i]);
@@ -641,6 +644,8 @@ public final class DocumentTest extends Checks {
         SlidesOverSlides two = lanternOf(plain(0xFFF0), slideOf(1, 0, 0, 0x0001));
         due("three clear in both", two.dust(3, 1, 0), 729);
         due("three clear in both", two.dust(3, 1, 1), 1000);
+        SlidesOverSlides ends = lanternOf(plain(0x7FFF), plain(0x8000));
+        due("none turned over: none clear", ends.dust(3, 9, 1), 1);
     }
 
     /** The least cost by all orders of these lists of sets, from the set that was laid last. */
@@ -718,6 +723,7 @@ public final class DocumentTest extends Checks {
         judgedIs(x, 1, 3, 32);
         judgedIs(x, 0, 255);
         judgedIs(lanternOf(plain(1)), 0, 1);
+        judgedIs(lanternOf(plain(0)), 0, 1);
         judgedIs(lanternOf(want(0)), 0, 0);
         // Heat 1: behind its first use cell 1 of slide 0 cracks, so the second show is 1.
         SlidesOverSlides y = lanternOf(plain(3), want(3), "h1;");
